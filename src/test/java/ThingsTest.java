@@ -107,6 +107,9 @@ public final class ThingsTest {
         DUE.is("make(0, 0) with 60", NONE, x.make(0, 0));
         DUE.is("make(1, 0) with 60", NONE, x.make(1, 0));
         DUE.is("about(59, 1)", 58, x.about(59, 1));
+        DUE.is("about(58, 3)", 1, x.about(58, 3));
+        DUE.is("about(59, 3)", 0, x.about(59, 3));
+        DUE.is("numbers(8)", 30, x.numbers(8));
         DUE.is("drop(58)", 2, x.drop(58));
         DUE.is("make(0, 0) after 60 were made", NONE, x.make(0, 0));
         DUE.is("make(1, 0) after 60 were made", NONE, x.make(1, 0));
