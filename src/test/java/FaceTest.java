@@ -21,7 +21,8 @@ public final class FaceTest {
         "long call(int, int, long)", "boolean build(int, int)", "int turn(int)", "int building(int, int)",
         "int told(int, int)", "long value(int)", "int count(int)"};
     private static final Pattern FORBIDDEN = Pattern.compile(
-        "\\b(throws?|try|catch|finally|synchronized|assert|import|package|hashCode|toString)\\b|\\bstatic\\s*\\{|->|::");
+        "\\b(throws?|try|catch|finally|synchronized|assert|import|package|hashCode|toString)\\b"
+        + "|\\bstatic\\s*\\{|->|::");
     private static int wrong = 0;
 
     public static void main(String[] args) throws IOException {

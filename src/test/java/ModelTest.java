@@ -163,7 +163,8 @@ public final class ModelTest {
                 return same("build(" + house + ", " + turns + ")", model.build(house, turns), x.build(house, turns));
             }
             case 1: return same("turn(" + house + ")", model.turn(house), x.turn(house));
-            case 2: return same("building(" + house + ", " + small + ")", model.building(house, small), x.building(house, small));
+            case 2: return same("building(" + house + ", " + small + ")",
+                model.building(house, small), x.building(house, small));
             case 3: return same("told(" + i + ", " + small + ")", model.told(i, small), x.told(i, small));
             case 4: return same("value(" + i + ")", model.value(i), x.value(i));
             default: return same("count(" + small + ")", model.count(small), x.count(small));
