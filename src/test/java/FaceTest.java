@@ -22,12 +22,20 @@ public final class FaceTest {
         "int told(int, int)", "long value(int)", "int count(int)"};
     private static final Pattern FORBIDDEN = Pattern.compile(
         "\\b(throws?|try|catch|finally|synchronized|assert|import|package|hashCode|toString)\\b"
-        + "|\\bstatic\\s*\\{|->|::");
+        + "|\\bstatic\\s*\\{|->|::|\\w+Exact\\b");
+    private static final Pattern CLASS_NAME = Pattern.compile("\\b[A-Z][A-Za-z]*[a-z][A-Za-z]*\\b");
+    private static final List<String> LIBRARY = List.of("String", "StringBuilder", "Integer", "Long", "Math", "System");
+    private static final List<Class<?>> TYPES_OF_CONSTANTS = List.of(int.class, long.class, boolean.class, char.class,
+        String.class, int[].class, long[].class, char[].class, byte[].class);
+    private static final int MOST_CLASSES = 12;
+    private static final int MOST_FIELDS = 20;
+    private static final int MOST_PARAMETERS = 7;
     private static int wrong = 0;
 
     public static void main(String[] args) throws IOException {
         face();
         insideClasses();
+        members();
         words();
         System.out.println(wrong + " faults of the face or the source");
         if (wrong != 0) {
@@ -58,8 +66,6 @@ public final class FaceTest {
         for (Field f : BuildCounter.class.getDeclaredFields()) {
             if (!Modifier.isPrivate(f.getModifiers())) {
                 seen.add(f.getType() + " " + f.getName());
-            } else if (Modifier.isStatic(f.getModifiers()) && !Modifier.isFinal(f.getModifiers())) {
-                fault("a static field that is not final: " + f.getName());
             }
         }
         for (Constructor<?> c : BuildCounter.class.getDeclaredConstructors()) {
@@ -85,24 +91,60 @@ public final class FaceTest {
         }
     }
 
+    private static List<Class<?>> allClasses() {
+        List<Class<?>> all = new ArrayList<>();
+        all.add(BuildCounter.class);
+        all.addAll(Arrays.asList(BuildCounter.class.getDeclaredClasses()));
+        return all;
+    }
+
     private static void insideClasses() {
-        Class<?>[] inside = BuildCounter.class.getDeclaredClasses();
-        if (inside.length > 11) {
+        if (allClasses().size() > MOST_CLASSES) {
             fault("more than twelve classes");
         }
-        for (Class<?> c : inside) {
+        for (Class<?> c : BuildCounter.class.getDeclaredClasses()) {
             if (!Modifier.isStatic(c.getModifiers()) || Modifier.isPublic(c.getModifiers())) {
                 fault("a class inside that is public or not static: " + c.getName());
             }
         }
     }
 
+    private static void members() {
+        for (Class<?> c : allClasses()) {
+            int fields = 0;
+            for (Field f : c.getDeclaredFields()) {
+                if (!Modifier.isStatic(f.getModifiers())) {
+                    fields++;
+                } else if (!Modifier.isFinal(f.getModifiers()) || !TYPES_OF_CONSTANTS.contains(f.getType())) {
+                    fault("a static field that is no constant: " + f);
+                }
+            }
+            if (fields > MOST_FIELDS) {
+                fault("a class of more than twenty fields: " + c.getName());
+            }
+            for (Method m : c.getDeclaredMethods()) {
+                if (m.getParameterCount() > MOST_PARAMETERS) {
+                    fault("a method of more than seven parameters: " + m);
+                }
+            }
+        }
+    }
+
     private static void words() throws IOException {
-        String source = Files.readString(Path.of(System.getProperty("buildcounter.source")));
+        String source = Files.readString(Path.of(
+            System.getProperty("buildcounter.root"), "src", "main", "java", "BuildCounter.java"));
         String code = source.replaceAll("(?s)/\\*.*?\\*/", "").replaceAll("//[^\n]*", "");
         Matcher found = FORBIDDEN.matcher(code);
         while (found.find()) {
             fault("the source uses " + found.group());
+        }
+        List<String> known = new ArrayList<>(LIBRARY);
+        allClasses().forEach(c -> known.add(c.getSimpleName()));
+        Matcher name = CLASS_NAME.matcher(code);
+        while (name.find()) {
+            if (!known.contains(name.group())) {
+                fault("the source uses " + name.group());
+            }
         }
     }
 }
